@@ -623,7 +623,7 @@ public final class StickStrings {
     }
 
     private int habitOf(int player) {
-        return score.laws.habitBy(score.players.law[player]);
+        return isPlayer(player) ? score.laws.habitBy(score.players.law[player]) : 0;
     }
 
     private int doubtAt(int k) {
@@ -655,11 +655,11 @@ public final class StickStrings {
     // ---- what may be asked for
 
     private boolean isPlayer(int player) {
-        return player >= 0 && player < score.players.count;
+        return player >= 0 && player < score.players.count && player < MOST_PLAYERS;
     }
 
     private boolean isBeat(int beat) {
-        return beat >= 0 && beat < score.beats;
+        return beat >= 0 && beat < score.beats && beat < MOST_BEATS;
     }
 
     private boolean isSpan(int a, int b) {
@@ -724,6 +724,7 @@ public final class StickStrings {
         static final int DARES = 15;
         static final int WRONG = 16;
 
+        // One blank behind each.
         private static final String WORDS =
                 "stick beat times pause law ahead player sees hears dares wrong ";
         private static final int WORD_COUNT = 11;
@@ -750,8 +751,10 @@ public final class StickStrings {
                 length = i + 1;
             }
             for (int word = 0; word < WORD_COUNT; word++) {
-                step();
+                value = 0;
+                stepOverLetters();
                 words[word] = value;
+                next++;
             }
         }
 

@@ -5,7 +5,7 @@ import java.util.Random;
 
 /** Long random runs, with texts good and bad and arguments in and out of their bounds, against the oracle. */
 public final class OracleTest {
-    private static final int RUNS = 700;
+    private static final int RUNS = 1200;
     private static final int[] EDGES = {Integer.MIN_VALUE, Integer.MAX_VALUE, -2, -1, 0, 1, 2, 5, 6, 7, 8, 9, 15, 16,
         30, 31, 39, 40, 41, 50, 51, 200, 201, 2000, 2001, -2000, -2001, 9999, 10000, 1000000, 1000001, -1000000, -1000001};
 
@@ -33,8 +33,9 @@ public final class OracleTest {
     private void go() {
         tell(new Texts(random).good());
         int more = 30 + random.nextInt(60);
+        int often = random.nextInt(3) == 0 ? 1000 : 12;
         for (int i = 0; i < more && due.wrong() == 0; i++) {
-            if (random.nextInt(12) == 0) {
+            if (random.nextInt(often) == 0) {
                 Texts texts = new Texts(random);
                 tell(random.nextInt(3) == 0 ? texts.good() : texts.bad());
             }
@@ -154,7 +155,8 @@ public final class OracleTest {
             case 19 -> is(show("together", x, y, n, m), object.together(x, y, n, m), oracle.together(x, y, n, m));
             case 20 -> {
                 int what = pick(0, 2);
-                is(show("where", n, n + 1, what), object.where(n, n + 1, what), oracle.where(n, n + 1, what));
+                int last = Math.min(n + 1, oracle.count(2) - 1);
+                is(show("where", n, last, what), object.where(n, last, what), oracle.where(n, last, what));
             }
             case 21 -> is(show("shift", p, x, y), object.shift(p, x, y), oracle.shift(p, x, y));
             case 22, 23 -> is(show("moved", p, n, v, q, m), object.moved(p, n, v, q, m), oracle.moved(p, n, v, q, m));

@@ -780,6 +780,14 @@ public final class PromisesTest {
         due.is("31 d beyond", s.next(0, 10000, 0), NONE);
         due.is("31 d below", s.next(0, -1, 0), NONE);
         due.is("31 taken stays", s.look(0, 7), 15);
+        // Without the stick a and b are alike, without their own too, without eyes c and d.
+        s = Due.told("beat 100 times 4;law a 1 0 0 0 10;law b 1 1 0 0 10;law c 0 1 1 0 10;law d 0 0 1 0 10;"
+                + "player p a 0 0 0 sees q;player q a 0 0 0;wrong p 1 50;wrong q 0 30;");
+        due.is("31 the last of them", s.next(0, 9999, 0), 8);
+        due.is("31 all apart", s.next(0, 9999, 1), 1);
+        s.take(0, 4);
+        due.is("31 eyes taken: his own, too", s.next(0, 9999, 0), 2);
+        due.is("31 eyes taken: two alike", s.next(0, 9999, 1), 2);
         due.is("31 one law", Due.told(LAW + "beat 100;player p l 0 0 0;").next(0, 0, 0), NONE);
         due.is("31 no beats: all alike", Due.told(LAW + "law k 1 1 1 1 9;player p l 0 0 0;").next(0, 0, 1), 2);
     }
