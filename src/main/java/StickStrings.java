@@ -174,7 +174,7 @@ public final class StickStrings {
     // ---- when each begins
 
     public int begin(int beat) {
-        if (score.beats == 0 || !within(beat, 0, score.beats)) {
+        if (score.beats == 0 || !within(beat, 0, score.beats) || beat > MOST_BEATS) {
             return NONE;
         }
         return score.begins[beat];
@@ -321,7 +321,7 @@ public final class StickStrings {
         cast.fill(score, stage);
         play.hearFrom(score.players, cast, x, y);
         int latest = 0;
-        for (int other = 0; other < score.players.count; other++) {
+        for (int other = 0; other < score.players.count && other < MOST_PLAYERS; other++) {
             latest = Math.max(latest, play.late[other]);
         }
         return latest - play.late[player];
@@ -339,7 +339,7 @@ public final class StickStrings {
         } else {
             tryChanges(x, y, a, b);
         }
-        return what == 0 ? seating.least : seating.best[what - 1];
+        return what == 0 ? seating.least : seating.placeOf(what - 1);
     }
 
     private void tryAllWays(int x, int y, int a, int b) {
@@ -509,7 +509,7 @@ public final class StickStrings {
     private int lawsThatFit(int player, int d) {
         notes.judge();
         int laws = 0;
-        for (int law = 0; law < score.laws.count; law++) {
+        for (int law = 0; law < score.laws.count && law < MOST_LAWS; law++) {
             playWithLaw(player, law, 0);
             if (notes.isNear(play, player, d)) {
                 laws |= 1 << law;
@@ -521,13 +521,13 @@ public final class StickStrings {
     private void playWithLaw(int player, int law, int bit) {
         cast.fill(score, stage);
         cast.takeAlso(player, bit);
-        cast.law[player] = law;
+        cast.goByLaw(player, law);
         play.run(score, cast);
     }
 
     private int greatestGroup(int player, int laws, int bit) {
         int greatest = 0;
-        for (int law = 0; law < score.laws.count; law++) {
+        for (int law = 0; law < score.laws.count && law < MOST_LAWS; law++) {
             if ((laws >> law & 1) == 0) {
                 continue;
             }
@@ -540,7 +540,10 @@ public final class StickStrings {
     }
 
     private void keepEntries(int player, int law) {
-        for (int beat = 0; beat < score.beats; beat++) {
+        if (!score.laws.has(law)) {
+            return;
+        }
+        for (int beat = 0; beat < score.beats && beat < MOST_BEATS; beat++) {
             lawEntries[law * MOST_BEATS + beat] = play.at(player, beat);
         }
     }
@@ -556,7 +559,10 @@ public final class StickStrings {
     }
 
     private boolean areAlike(int law, int other) {
-        for (int beat = 0; beat < score.beats; beat++) {
+        if (!score.laws.has(law) || !score.laws.has(other)) {
+            return false;
+        }
+        for (int beat = 0; beat < score.beats && beat < MOST_BEATS; beat++) {
             if (lawEntries[law * MOST_BEATS + beat] != lawEntries[other * MOST_BEATS + beat]) {
                 return false;
             }
@@ -571,7 +577,7 @@ public final class StickStrings {
             return NONE;
         }
         int all = 0;
-        for (int other = 0; other < score.players.count; other++) {
+        for (int other = 0; other < score.players.count && other < MOST_PLAYERS; other++) {
             all += score.players.dares[other];
         }
         int his = score.players.dares[player];
@@ -770,7 +776,7 @@ public final class StickStrings {
         }
 
         void open(int first) {
-            length = Math.min(first, count);
+            length = Math.min(first, Math.min(count, MOST_BYTES));
             next = 0;
             step();
         }
@@ -1416,8 +1422,8 @@ public final class StickStrings {
 
         final int[] x;
         final int[] y;
-        final int[] law;
-        final int[] taken;
+        private final int[] law;
+        private final int[] taken;
         final int[] sees;
         final int[] hears;
         private final int[] weights;
@@ -1459,6 +1465,12 @@ public final class StickStrings {
         void takeAlso(int player, int bit) {
             if (has(player)) {
                 taken[player] |= bit;
+            }
+        }
+
+        void goByLaw(int player, int other) {
+            if (has(player)) {
+                law[player] = other;
             }
         }
 
@@ -1738,7 +1750,7 @@ public final class StickStrings {
 
         private int count;
         final int[] now;
-        final int[] best;
+        private final int[] best;
         long least;
 
         Seating() {
@@ -1759,6 +1771,10 @@ public final class StickStrings {
                 least = amount;
                 System.arraycopy(now, 0, best, 0, MOST_PLAYERS);
             }
+        }
+
+        int placeOf(int player) {
+            return player >= 0 && player < MOST_PLAYERS ? best[player] : NONE;
         }
 
         void goOnFromBest() {
