@@ -68,6 +68,7 @@ public final class EdgesTest {
         edges34two();
         edges35clear();
         edges36draws();
+        edges36drawsAtTheBound();
         edges37count();
         edgesOfManyCalls();
         due.end();
@@ -1321,6 +1322,24 @@ public final class EdgesTest {
                 due.is("36 seed " + seed + " j " + j, t.draws(seed, 50, j, j), holds);
             }
         }
+    }
+
+    /**
+     * Four in a ring, from BEAT 31 on all at the bounds, two above and two below, and e, whose WRONG ones make LAG at the
+     * last BEAT what it was 8 ahead. Chance comes ahead of the bound: SPREAD can't grow, and LAG moves by what the two
+     * innermost of the four and e have of it at both BEATS, by 5.
+     */
+    private static void edges36drawsAtTheBound() {
+        StickStrings s = Due.told("beat 100 times 40;law s 1 0 0 0 0;law f 0 0 1 0 0;player a f 0 0 0 sees b;"
+                + "player b f 0 0 0 sees c;player c f 0 0 0 sees d;player d f 0 0 0 sees a;player e s 0 0 0;wrong a 1 1800;"
+                + "wrong b 1 1800;wrong c 1 - 2000;wrong d 1 - 2000;wrong e 31 - 1200;wrong e 39 2000;");
+        for (int player = 0; player < 4; player++) {
+            due.is("36 at the bound at 31", Math.abs(s.entry(player, 31)), BOUND);
+            due.is("36 at the bound at 39", Math.abs(s.entry(player, 39)), BOUND);
+        }
+        due.is("36 it holds", s.verdict(0), 0);
+        due.is("36 ahead of the bound", s.draws(1, 50, 3, 4), 50);
+        due.is("36 ahead of the bound", s.draws(99, 50, 3, 4), 50);
     }
 
     /** The last number times 1103515245 and 12345, wrapped at 31 bits. */
