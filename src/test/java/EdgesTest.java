@@ -358,25 +358,33 @@ public final class EdgesTest {
         }
     }
 
+    /** A number that can't be below 0 has no sign ahead of it, be it as small as can be. */
+    private static void unsigned(String ahead, int least, int most, String behind, int lines) {
+        number(ahead, least, most, behind, lines);
+        faultOf(ahead + "- " + most + behind, 1, ahead.length());
+        faultOf(ahead + "-1" + behind, 1, ahead.length());
+        faultOf(ahead + "-0" + behind, 1, ahead.length());
+    }
+
     private static void edges04numbers() {
-        number("stick ", 0, 30, " 0;", 1);
-        number("stick 0 ", 0, 30, ";", 1);
-        number("beat ", 100, 4000, ";", 1);
-        number("beat 100 times ", 1, 40, ";", 1);
-        number("beat 100;pause ", 0, 9999, ";", 2);
-        number("law l ", 0, 9, " 0 0 0 0;", 1);
-        number("law l 0 ", 0, 9, " 0 0 0;", 1);
-        number("law l 0 0 ", 0, 9, " 0 0;", 1);
-        number("law l 0 0 0 ", 0, 9, " 0;", 1);
+        unsigned("stick ", 0, 30, " 0;", 1);
+        unsigned("stick 0 ", 0, 30, ";", 1);
+        unsigned("beat ", 100, 4000, ";", 1);
+        unsigned("beat 100 times ", 1, 40, ";", 1);
+        unsigned("beat 100;pause ", 0, 9999, ";", 2);
+        unsigned("law l ", 0, 9, " 0 0 0 0;", 1);
+        unsigned("law l 0 ", 0, 9, " 0 0 0;", 1);
+        unsigned("law l 0 0 ", 0, 9, " 0 0;", 1);
+        unsigned("law l 0 0 0 ", 0, 9, " 0;", 1);
         number("law l 0 0 0 0 ", 0, 500, ";", 1);
-        number("law l 0 0 0 0 - ", 0, 500, " ahead;", 1);
-        number(LAW + "player p l ", 0, 30, " 0 0;", 2);
-        number(LAW + "player p l 0 ", 0, 30, " 0;", 2);
-        number(LAW + "player p l 0 0 ", 0, 300, ";", 2);
-        number(LAW + "player p l 0 0 0 dares ", 0, 99, ";", 2);
-        number(ONE + "wrong p ", 0, 39, " 0;", 3);
+        unsigned("law l 0 0 0 0 - ", 0, 500, " ahead;", 1);
+        unsigned(LAW + "player p l ", 0, 30, " 0 0;", 2);
+        unsigned(LAW + "player p l 0 ", 0, 30, " 0;", 2);
+        unsigned(LAW + "player p l 0 0 ", 0, 300, ";", 2);
+        unsigned(LAW + "player p l 0 0 0 dares ", 0, 99, ";", 2);
+        unsigned(ONE + "wrong p ", 0, 39, " 0;", 3);
         number(ONE + "wrong p 0 ", 0, 2000, ";", 3);
-        number(ONE + "wrong p 0 - ", 0, 2000, ";", 3);
+        unsigned(ONE + "wrong p 0 - ", 0, 2000, ";", 3);
         StickStrings s = Due.told("law l 0 0 0 0 - 500;player p l 0 0 0;beat 4000;pause 9999;beat 100;wrong p 1 - 2000;");
         due.is("4 habit below 0", s.law(0, 4), -500);
         due.is("4 wrong below 0", s.entry(0, 1), -500 + 13999 - 2000);
@@ -912,6 +920,7 @@ public final class EdgesTest {
         due.is("21 he himself is the latest", s.shift(1, 0, 0), 0);
         due.is("21 the other one", s.shift(0, 0, 0), 25);
         due.is("21 he alone", Due.told(ONE).shift(0, 40, 40), 0);
+        due.is("21 nobody is late at all", Due.told(ONE).shift(0, 0, 0), 0);
         due.is("21 without beats", Due.told(LAW + "player a l 0 0 5;player b l 0 0 9;").shift(0, 0, 0), 4);
     }
 
@@ -1164,6 +1173,14 @@ public final class EdgesTest {
         due.is("31 none fits", s.next(0, 9, 0), NONE);
         due.is("31 none fits, what 1", s.next(0, 9, 1), NONE);
         due.is("31 one law", Due.told(ONE + "beat 100;").next(0, 9999, 0), NONE);
+        // All six LAWS alike, whatever is taken: one group of all, and the first of the TAKINGS.
+        StringBuilder six = new StringBuilder("beat 100 times 2;");
+        for (int i = 0; i < 6; i++) {
+            six.append("law ").append((char) ('a' + i)).append(" 1 1 1 1 5;");
+        }
+        StickStrings alike = Due.told(six + "player p a 0 0 0;");
+        due.is("31 six alike: the first", alike.next(0, 0, 0), 1);
+        due.is("31 six alike: their group", alike.next(0, 0, 1), 6);
         // Three alike by the stick and one not: without the stick all four are alike.
         StickStrings t = Due.told("beat 100;pause 10;beat 100 times 3;law a 1 0 0 0 0;law b 2 0 0 0 0;law c 3 0 0 0 0;law d 0 1 0 0 0;"
                 + "player p a 0 0 0;");
