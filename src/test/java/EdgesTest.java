@@ -64,6 +64,7 @@ public final class EdgesTest {
         edges31next();
         edges32order();
         edges32orderOfFiveAndSix();
+        edges32orderTwentyTimes();
         edges33pause();
         edges34two();
         edges35clear();
@@ -1245,6 +1246,97 @@ public final class EdgesTest {
                 0, new int[] {0, 1, 2, 3, 4, 5, 6, 7});
         ordered("32 eight, the other way round", inARow(new int[] {7, 6, 5, 4, 3, 2, 1, 0}, new int[] {21, 18, 15, 12, 9, 6, 3, 0}),
                 0, new int[] {7, 6, 5, 4, 3, 2, 1, 0});
+    }
+
+    /** Sets the PLAYERS on each other's PLACES (a new object, for it is used for 512 calls at most). */
+    private static StickStrings seated(String text, int[] whose) {
+        StickStrings told = Due.told(text);
+        StickStrings s = Due.told(text);
+        for (int i = 0; i < whose.length; i++) {
+            s.seat(i, told.look(whose[i], 1), told.look(whose[i], 2));
+        }
+        return s;
+    }
+
+    private static long togetherIfChanged(StickStrings s, int i, int j, int[] ask) {
+        int x = s.look(i, 1);
+        int y = s.look(i, 2);
+        s.seat(i, s.look(j, 1), s.look(j, 2));
+        s.seat(j, x, y);
+        long together = s.together(ask[0], ask[1], ask[2], ask[3]);
+        s.undo();
+        s.undo();
+        return together;
+    }
+
+    /** The change of two that makes it least, made in whose: false, and none is made, if none makes it less. */
+    private static boolean changed(String text, int[] whose, int[] ask) {
+        StickStrings s = seated(text, whose);
+        long least = s.together(ask[0], ask[1], ask[2], ask[3]);
+        int one = 0;
+        int other = 0;
+        for (int i = 0; i < whose.length; i++) {
+            for (int j = i + 1; j < whose.length; j++) {
+                long here = togetherIfChanged(s, i, j, ask);
+                if (here < least) {
+                    least = here;
+                    one = i;
+                    other = j;
+                }
+            }
+        }
+        int kept = whose[one];
+        whose[one] = whose[other];
+        whose[other] = kept;
+        return one != other;
+    }
+
+    /** Changes two by seat(), again and again; order() must be where the twentieth change comes to, if there are more. */
+    private static void orderedBySeats(String text, int[] ask, int wanted) {
+        int[] whose = {0, 1, 2, 3, 4, 5, 6, 7};
+        int[] due20 = whose.clone();
+        int changes = 0;
+        while (changed(text, whose, ask)) {
+            changes++;
+            if (changes <= 20) {
+                due20 = whose.clone();
+            }
+        }
+        due.is("32 changes that this text wants", changes, wanted);
+        StickStrings s = Due.told(text);
+        long together = seated(text, due20).together(ask[0], ask[1], ask[2], ask[3]);
+        due.is("32 " + wanted + " changes: how much", s.order(ask[0], ask[1], ask[2], ask[3], 0), together);
+        for (int i = 0; i < 8; i++) {
+            due.is("32 " + wanted + " changes: place of " + i, s.order(ask[0], ask[1], ask[2], ask[3], i + 1), due20[i]);
+        }
+    }
+
+    /** Texts that were searched for: each change of two makes it less, but at the 20th it ends. */
+    private static void edges32orderTwentyTimes() {
+        orderedBySeats("beat 1130;beat 1660 times 5;law a 1 9 5 3 456;law b 0 3 5 2 470;law c 5 0 2 4 446;law d 5 2 5 7 -298;"
+                + "law e 7 3 6 5 348;player a c 23 13 72 sees b sees e sees g hears d hears e hears f hears g;"
+                + "player b e 13 21 290 sees a sees e sees f hears c hears d hears g hears h;"
+                + "player c a 18 25 116 sees b hears d hears e hears f hears h;"
+                + "player d a 9 0 289 sees a sees f hears e hears f hears g;"
+                + "player e d 23 17 212 sees d hears d hears f hears g hears h;"
+                + "player f c 15 0 102 sees g sees h hears c hears e hears g hears h;"
+                + "player g c 7 16 78 sees c sees d sees f sees h hears c hears e hears f hears h;"
+                + "player h b 0 22 168 sees b hears c hears d hears f hears g;", new int[] {1, 28, 2, 2}, 20);
+        orderedBySeats("beat 100 times 7;law a 5 8 7 7 0ahead;player a a 1 21 3 sees d sees e sees g hears d hears e hears f;"
+                + "player b a 0 27 87 sees c sees d sees f hears e hears f hears h;"
+                + "player c a 6 30 17 sees a sees d sees f sees g hears e;player d a 7 25 242 sees b hears a hears e hears f;"
+                + "player e a 20 22 141 sees b sees c sees f hears d hears h;"
+                + "player f a 14 5 60 sees b sees h hears c hears e hears g;"
+                + "player g a 11 3 1 sees a sees b sees e hears a hears e hears f;"
+                + "player h a 18 5 101 sees a sees c sees d sees f hears e hears g;wrong g 2 747;wrong g 5 -100;",
+                new int[] {7, 24, 2, 6}, 21);
+        orderedBySeats("beat 100 times 6;law a 0 4 2 8 137;law b 5 7 0 8 -500;law c 2 8 6 3 27;law e 4 9 7 1 -488;"
+                + "player a b 16 13 65 hears f hears h;player b a 24 28 220 sees c sees e sees f sees g hears a hears e hears g;"
+                + "player c c 11 0 106 sees h hears d hears e hears g;"
+                + "player d a 18 22 195 sees c sees f sees g hears c hears g hears h;"
+                + "player e a 19 6 95 sees a sees f sees g sees h hears c;player f e 28 9 40 sees b hears b hears c hears e hears h;"
+                + "player g b 13 29 255 hears a hears c hears e hears f;player h b 21 28 153 hears b hears c hears d;"
+                + "wrong f 2 -1169;", new int[] {15, 7, 3, 3}, 23);
     }
 
     // ---- pauses, pairs, doubt and chance
