@@ -48,6 +48,7 @@ public final class EdgesTest {
         edges15take();
         edges16seat();
         edges17undo();
+        edges17undoOfSeveral();
         edges18sound();
         edges19together();
         edges20where();
@@ -841,6 +842,60 @@ public final class EdgesTest {
         due.is("17 entries go back, too", Due.told(PAIR).entry(1, 3), s.entry(1, 3));
     }
 
+    /** The places and takings of three, as one row (of more, it would be above 512 calls). */
+    private static List<Integer> lookedAt(StickStrings s) {
+        List<Integer> all = new ArrayList<>();
+        for (int player = 0; player < 3; player++) {
+            all.add(s.look(player, 1));
+            all.add(s.look(player, 2));
+            all.add(s.look(player, 7));
+        }
+        return all;
+    }
+
+    /** One change, of another PLAYER and to other numbers each time. */
+    private static void changeOnce(StickStrings s, int i) {
+        if (i % 3 == 2) {
+            s.take((i + i / 4) % 3, i % 15 + 1);
+        } else {
+            s.seat((i + i / 4) % 3, (i + 1) % 31, (7 * i + 3) % 31);
+        }
+    }
+
+    /** Some changes, some of them undone, some more: then all that can be undone goes back one by one. */
+    private static void undoneOneByOne(int changes, int back, int more) {
+        StickStrings s = Due.told("law l 1 0 0 0 0;player a l 0 1 0;player b l 2 3 0;player c l 4 5 0;");
+        List<List<Integer>> ahead = new ArrayList<>();
+        for (int i = 0; i < changes + more; i++) {
+            for (int k = 0; i == changes && k < back; k++) {
+                s.undo();
+                ahead.remove(ahead.size() - 1);
+            }
+            ahead.add(lookedAt(s));
+            changeOnce(s, i);
+            if (ahead.size() > 20) {
+                ahead.remove(0);
+            }
+        }
+        String call = "17 " + changes + " changes, " + back + " undone, " + more + " more";
+        due.is(call, s.count(6), ahead.size());
+        for (int left = ahead.size() - 1; left >= 0; left--) {
+            due.is(call + ": left", s.undo(), left);
+            due.is(call + ": all as ahead of it, " + left, lookedAt(s).equals(ahead.get(left)), true);
+        }
+        due.is(call + ": none", s.undo(), NONE);
+    }
+
+    private static void edges17undoOfSeveral() {
+        undoneOneByOne(7, 3, 2);
+        undoneOneByOne(19, 0, 1);
+        undoneOneByOne(20, 0, 1);
+        undoneOneByOne(20, 1, 1);
+        undoneOneByOne(13, 0, 12);
+        undoneOneByOne(11, 11, 9);
+        undoneOneByOne(9, 4, 7);
+    }
+
     // ---- the hall
 
     private static void edges18sound() {
@@ -1190,6 +1245,14 @@ public final class EdgesTest {
         t.take(0, 1);
         due.is("31 with what is taken: the first", t.next(0, 0, 0), 1);
         due.is("31 with what is taken: all alike", t.next(0, 0, 1), 4);
+        // Once a FILM says that LAW a doesn't fit, it is in no group, though without the stick b and c are like it.
+        StickStrings u = Due.told("beat 100 times 3;law a 0 1 0 0 0;law b 1 1 0 0 0;law c 1 1 0 0 0;player p a 0 0 0;wrong p 1 10;");
+        due.is("31 three fit: not the stick", u.next(0, 0, 0), 2);
+        due.is("31 three fit: two alike", u.next(0, 0, 1), 2);
+        u.film(0, 2, 210);
+        due.is("31 two fit", u.fits(0, 0), 6);
+        due.is("31 two fit: the first", u.next(0, 0, 0), 1);
+        due.is("31 two fit: both alike", u.next(0, 0, 1), 2);
     }
 
     // ---- seats changed
