@@ -1622,15 +1622,25 @@ public final class StickStrings {
             return widthAt(score, beat, nothing);
         }
 
+        /** Reads its row straight: where() comes here for each BEAT in each seat of the hall. */
         private int widthAt(Score score, int beat, int[] later) {
+            if (score.players.count == 0 || beat < 0 || beat >= MOST_BEATS) {
+                return 0;
+            }
+            int row = beat * MOST_PLAYERS;
+            int players = Math.min(score.players.count, MOST_PLAYERS);
             int earliest = Integer.MAX_VALUE;
             int latest = Integer.MIN_VALUE;
-            for (int player = 0; player < score.players.count && player < later.length; player++) {
-                int time = at(player, beat) + later[player];
-                earliest = Math.min(earliest, time);
-                latest = Math.max(latest, time);
+            for (int player = 0; player < players && player < later.length; player++) {
+                int time = times[row + player] + later[player];
+                if (time < earliest) {
+                    earliest = time;
+                }
+                if (time > latest) {
+                    latest = time;
+                }
             }
-            return score.players.count == 0 ? 0 : latest - earliest;
+            return latest - earliest;
         }
 
         int lagAt(Score score, int beat) {
